@@ -728,8 +728,7 @@ public final class BiscuitLess {
             HOUSE_WORD, OFFICE_WORD, GONE_WORD, COME_WORD};
         // dearer, cheaper, smaller, thinner, better, gone, come
         private static final long[] HOW_WORDS = {0x646561726572L, 0x63686561706572L, 0x736d616c6c6572L,
-            0x7468696e6e6572L, 0x626574746572L,
-            GONE_WORD, COME_WORD};
+            0x7468696e6e6572L, 0x626574746572L, GONE_WORD, COME_WORD};
         // carry, near, drop
         private static final long[] MISSING_WORDS = {0x6361727279L, 0x6e656172L, 0x64726f70L};
         // piece, weight

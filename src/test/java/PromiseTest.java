@@ -26,6 +26,9 @@ public final class PromiseTest {
         feed();
         land();
         faults();
+        faultsOfCutLines();
+        bytesBehind();
+        fullLand();
         faultsOfBounds();
         faultsOfRoom();
         where();
@@ -201,6 +204,58 @@ public final class PromiseTest {
         faulty(LEAST.replace("house h notices 0 pension 0 wants a 1;", ""), 6, LEAST.length() - 38);
         faulty("months 2;group a;house h notices 0 pension 0 wants a 1;office o carry piece fixed", 6, 81);
         faulty("months 1;;", 4, 7);
+        faulty("group a;group b;house h notices 1 pension 1 wants a 1:b 1", 1, 53);
+        faulty("group a;group b;house h notices 1 pension 1 wants a 1;b 1", 1, 54);
+    }
+
+    /** A line that is cut short is a fault of form, at the end, or at what stands there instead. */
+    private static void faultsOfCutLines() {
+        Check.part("promises 4 and 5, cut lines");
+        StringBuilder ahead = new StringBuilder();
+        for (String line : (LEAST + ";change x month 1 dearer 1;change x month 1 gone").split(";")) {
+            StringBuilder part = new StringBuilder(ahead);
+            for (String token : line.split(" ")) {
+                faulty(part.toString(), 1, part.length());
+                faulty(part + ";", 1, part.length());
+                part.append(token).append(' ');
+            }
+            ahead.append(line).append(';');
+        }
+    }
+
+    private static void bytesBehind() {
+        Check.part("promise 3, bytes behind the first n");
+        BiscuitLess x = new BiscuitLess();
+        Check.feed(x, "months 20");
+        refused(x, "land(8) of months 20", x.land(8), NO, 4);
+        Check.due("lacks alone", x.fault(), 6);
+        Check.feed(x, "group abcdefghi");
+        refused(x, "land(14) of group abcdefghi", x.land(14), NO, 4);
+        Check.due("lacks alone", x.fault(), 6);
+    }
+
+    private static void fullLand() {
+        Check.part("promise 3, a full land");
+        StringBuilder text = new StringBuilder("group a;group b;group c;group d");
+        for (char name = 'e'; name <= 'l'; name++) {
+            text.append(";thing ").append(name).append(" of d size 10 stuff 10 price 1");
+        }
+        text.append(";house m notices 0 pension 0 wants d 1,c 1,b 1,a 1;house n notices 0 pension 0 wants a 1");
+        text.append(";house o notices 0 pension 0 wants a 1;office p carry piece fixed;office q carry piece fixed");
+        faulty(text + ";office q", 3, text.length() + 8);
+        faulty(text + ";office a", 3, text.length() + 8);
+        text.append(";office r carry piece fixed");
+        for (int n = 0; n < 12; n++) {
+            text.append(";change l month 1 gone");
+        }
+        BiscuitLess x = new BiscuitLess();
+        Check.due("things", Check.tell(x, text + ";months 12"), 8);
+        int[] due = {12, 4, 8, 12, 3, 3};
+        for (int what = 0; what < 6; what++) {
+            Check.due("size(" + what + ")", x.size(what), due[what]);
+        }
+        Check.due("look(8, 11, 2)", x.look(8, 11, 2), 255);
+        Check.due("lacks(2, 2, 11)", x.lacks(2, 2, 11), 0);
     }
 
     private static void faultsOfBounds() {
@@ -342,6 +397,10 @@ public final class PromiseTest {
         refused(x, "no what", x.buys(0, 0, 0, 2), NO, 1);
         refused(x, "no what below", x.buys(0, 0, 0, -1), NO, 1);
         refused(x, "one that is", x.buys(0, 0, 0, 0), 1, 0);
+        BiscuitLess upwards = Check.landOf(LEAST.replace("size 10 stuff 10", "size 11 stuff 11").replace("wants a 1", "wants a 23"));
+        Check.due("2300 by 121, upwards", upwards.buys(0, 0, 0, 1), 20);
+        BiscuitLess even = Check.landOf(LEAST.replace("wants a 1", "wants a 99"));
+        Check.due("9900 by 100", even.buys(0, 0, 0, 1), 99);
     }
 
     private static void spentMissedTruly() {
@@ -831,9 +890,44 @@ public final class PromiseTest {
         x.where();
         led(x, 0, 0);
         led(x, 9, 9);
-        x.feed(1, 1, 1, 1, 1);
+        x.feed(0x20202020, 0x20202020, 0x20202020, 0x20202020, 0x20202020);
         Check.due("trouble() behind calls of which no number is told", x.trouble(), 1);
-        x.back(0);
-        Check.due("trouble() behind one that wasn't refused", x.trouble(), 0);
+        for (int call = 0; call < 23; call++) {
+            x.back(9);
+            Check.due("trouble() ahead", x.trouble(), 1);
+            answered(x, call);
+            Check.due("trouble() behind call " + call + ", which isn't refused", x.trouble(), 0);
+        }
+    }
+
+    private static void answered(BiscuitLess x, int call) {
+        switch (call) {
+            case 0 -> x.back(0);
+            case 1 -> x.buys(0, 0, 0, 0);
+            case 2 -> x.spent(0, 0);
+            case 3 -> x.missed(0, 0);
+            case 4 -> x.truly(0, 0);
+            case 5 -> x.live(0, 0);
+            case 6 -> x.number(0, 0);
+            case 7 -> x.gives(0, 0, 0);
+            case 8 -> x.beside(0, 0, 0);
+            case 9 -> x.drift(0, 0);
+            case 10 -> x.has(0, 0);
+            case 11 -> x.instead(0, 0, 0);
+            case 12 -> x.pension(0, 0, 0);
+            case 13 -> x.lacks(0, 0, 0);
+            case 14 -> x.nearest(0, 0);
+            case 15 -> x.worths(0, 0, 0);
+            case 16 -> x.span(0, 0, 999, 0, true);
+            case 17 -> x.hides(0, 1, 1, 0);
+            case 18 -> x.gain(0, 1, 1, 0);
+            case 19 -> x.look(1, 0, 0);
+            case 20 -> x.change(0, 1, 0, 1);
+            case 21 -> x.undo();
+            default -> {
+                Check.feed(x, LEAST);
+                x.land(x.size(6));
+            }
+        }
     }
 }
