@@ -189,7 +189,7 @@ public final class ModelTest {
             case 20 -> Check.due("look " + s, x.look(t + 1, m, o), model.look(t + 1, m, o));
             case 21 -> Check.due("change " + s, x.change(t, m, how, by), model.change(t, m, how, by));
             case 22 -> Check.due("undo " + s, x.undo() ? 1 : 0, model.undo());
-            case 23, 24 -> Check.due("led " + s, ledBy(h, three - 1), modelLed(h, three - 1));
+            case 23, 24 -> Check.due("led " + s, Check.led(x, h, three - 1), modelLed(h, three - 1));
             case 25 -> Check.due("size " + s, x.size(how), model.size(how));
             default -> {
                 int n = upTo(3) - 1;
@@ -199,19 +199,11 @@ public final class ModelTest {
         marks(s);
     }
 
-    private long ledBy(int h, int i) {
-        try {
-            return x.led(h, i);
-        } catch (NoSuchElementException e) {
-            return -99;
-        }
-    }
-
     private long modelLed(int h, int i) {
         try {
             return model.led(h, i);
         } catch (NoSuchElementException e) {
-            return -99;
+            return Check.THROWN;
         }
     }
 }

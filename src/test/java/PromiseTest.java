@@ -1,13 +1,9 @@
-import java.util.NoSuchElementException;
-
 /** Each promise of the document, with answers that were worked out by hand. */
 public final class PromiseTest {
     private static final int NO = BiscuitLess.NONE;
-    private static final int NO_DIFFERENCE = -1_000_000_000;
+    private static final int NO_DIFFERENCE = Check.NO_DIFFERENCE;
 
-    /** One thing, one house, one office: the least land there is. */
-    private static final String LEAST = "months 2;group a;thing x of a size 10 stuff 10 price 1;"
-        + "house h notices 0 pension 0 wants a 1;office o carry piece fixed";
+    private static final String LEAST = Check.LEAST;
 
     /** Two groups; q gets smaller, then dearer, r goes, s comes dearer than told; p is there all along. */
     private static final String LAND = "months 5;group a;group b;"
@@ -61,27 +57,6 @@ public final class PromiseTest {
         Check.end();
     }
 
-    private static void refused(BiscuitLess x, String call, long got, long want, int trouble) {
-        Check.due(call, got, want);
-        Check.due("trouble() behind " + call, x.trouble(), trouble);
-    }
-
-    private static void faulty(String text, int fault, int place) {
-        BiscuitLess x = new BiscuitLess();
-        String shown = "land of \"" + text + "\"";
-        refused(x, shown, Check.tell(x, text), NO, 4);
-        Check.due("fault of " + shown, x.fault(), fault);
-        Check.due("place in " + shown, x.where(), place);
-    }
-
-    private static long led(BiscuitLess x, int house, int i) {
-        try {
-            return x.led(house, i);
-        } catch (NoSuchElementException e) {
-            return -99;
-        }
-    }
-
     private static void newObject() {
         Check.part("promise 1");
         BiscuitLess x = new BiscuitLess();
@@ -92,10 +67,10 @@ public final class PromiseTest {
         Check.due("fault()", x.fault(), 0);
         Check.due("where()", x.where(), NO);
         Check.due("thing(0, 0, 0)", x.thing(0, 0, 0), NO);
-        refused(x, "back(0)", x.back(0), NO, 1);
-        refused(x, "look(1, 0, 0)", x.look(1, 0, 0), NO, 1);
-        refused(x, "change(0, 1, 5, 0)", x.change(0, 1, 5, 0), NO, 1);
-        refused(x, "worths(0, 0, 0)", x.worths(0, 0, 0), NO, 1);
+        Check.refused(x, "back(0)", x.back(0), NO, 1);
+        Check.refused(x, "look(1, 0, 0)", x.look(1, 0, 0), NO, 1);
+        Check.refused(x, "change(0, 1, 5, 0)", x.change(0, 1, 5, 0), NO, 1);
+        Check.refused(x, "worths(0, 0, 0)", x.worths(0, 0, 0), NO, 1);
         Check.due("another object's size(0)", Check.landOf(LEAST).size(0), 2);
         Check.due("size(0) of the first one", x.size(0), 0);
     }
@@ -103,7 +78,7 @@ public final class PromiseTest {
     private static void feed() {
         Check.part("promise 2");
         BiscuitLess x = new BiscuitLess();
-        refused(x, "back(0)", x.back(0), NO, 1);
+        Check.refused(x, "back(0)", x.back(0), NO, 1);
         for (int n = 1; n <= 45; n++) {
             Check.due("feed " + n, x.feed(0, -1, 1, 2, 3), 20 * n);
         }
@@ -122,15 +97,15 @@ public final class PromiseTest {
         BiscuitLess x = new BiscuitLess();
         Check.feed(x, LEAST);
         int fed = x.size(6);
-        refused(x, "land(-1)", x.land(-1), NO, 2);
-        refused(x, "land beyond the tape", x.land(fed + 1), NO, 2);
+        Check.refused(x, "land(-1)", x.land(-1), NO, 2);
+        Check.refused(x, "land beyond the tape", x.land(fed + 1), NO, 2);
         Check.due("the tape stays", x.size(6), fed);
-        refused(x, "land of less than a land", x.land(10), NO, 4);
+        Check.refused(x, "land of less than a land", x.land(10), NO, 4);
         Check.due("the tape is empty", x.size(6), 0);
         Check.due("land", Check.tell(x, LEAST), 1);
         Check.due("trouble()", x.trouble(), 0);
         Check.due("change", x.change(0, 1, 0, 5), 1);
-        refused(x, "land(0)", x.land(0), NO, 4);
+        Check.refused(x, "land(0)", x.land(0), NO, 4);
         Check.due("the land stays", x.thing(0, 1, 2), 6);
         Check.due("land anew", Check.tell(x, LAND), 4);
         Check.due("no change of the former land", x.size(3), 5);
@@ -149,63 +124,63 @@ public final class PromiseTest {
 
     private static void faults() {
         Check.part("promises 4 and 5, faults 1, 2, 3, 6");
-        faulty("", 1, 0);
-        faulty("   ", 1, 3);
-        faulty(";", 1, 0);
-        faulty("months", 1, 6);
-        faulty("months 2 ", 6, 9);
-        faulty("months 2;", 1, 9);
-        faulty("months 2x", 1, 8);
-        faulty("months 2 3", 1, 9);
-        faulty("months 0002", 1, 7);
-        faulty("months 002", 6, 10);
-        faulty("months a", 1, 7);
-        faulty("Months 2", 1, 0);
-        faulty("monthss 2", 1, 0);
-        faulty("a", 1, 0);
-        faulty("7", 1, 0);
-        faulty("months\t2", 1, 6);
-        faulty("months 2\0", 1, 8);
-        faulty("months 2:", 1, 8);
-        faulty("group abcdefgh", 6, 14);
-        faulty("group abcdefghi", 1, 6);
-        faulty("group a,b", 1, 7);
-        faulty("group 1", 1, 6);
+        Check.faulty("", 1, 0);
+        Check.faulty("   ", 1, 3);
+        Check.faulty(";", 1, 0);
+        Check.faulty("months", 1, 6);
+        Check.faulty("months 2 ", 6, 9);
+        Check.faulty("months 2;", 1, 9);
+        Check.faulty("months 2x", 1, 8);
+        Check.faulty("months 2 3", 1, 9);
+        Check.faulty("months 0002", 1, 7);
+        Check.faulty("months 002", 6, 10);
+        Check.faulty("months a", 1, 7);
+        Check.faulty("Months 2", 1, 0);
+        Check.faulty("monthss 2", 1, 0);
+        Check.faulty("a", 1, 0);
+        Check.faulty("7", 1, 0);
+        Check.faulty("months\t2", 1, 6);
+        Check.faulty("months 2\0", 1, 8);
+        Check.faulty("months 2:", 1, 8);
+        Check.faulty("group abcdefgh", 6, 14);
+        Check.faulty("group abcdefghi", 1, 6);
+        Check.faulty("group a,b", 1, 7);
+        Check.faulty("group 1", 1, 6);
         for (String word : "months group thing change house office gone come".split(" ")) {
-            faulty("group " + word, 1, 6);
-            faulty("group a;thing x of " + word, 1, 19);
+            Check.faulty("group " + word, 1, 6);
+            Check.faulty("group a;thing x of " + word, 1, 19);
         }
         for (String word : "month size stuff price of notices pension wants dearer carry piece fixed".split(" ")) {
-            faulty("group " + word, 6, 6 + word.length());
+            Check.faulty("group " + word, 6, 6 + word.length());
         }
-        faulty("group a;thing a", 3, 14);
-        faulty("group a;thing b of b", 2, 19);
-        faulty("group a;thing b off a", 1, 16);
-        faulty("group a;thing b of a size ten", 1, 26);
-        faulty("group a;thing b of a stuff 10", 1, 21);
-        faulty("group a;change a", 2, 15);
-        faulty("group a;house a", 3, 14);
-        faulty("group a;office a", 3, 15);
-        faulty("group a;house h notices 1 pension 1 wants h", 2, 42);
-        faulty("group a;house h notices 1 pension 1 wants a 1,", 1, 46);
-        faulty("group a;house h notices 1 pension 1 wants a 1,a 1", 3, 46);
-        faulty("group a;group b;house h notices 1 pension 1 wants b 1,a 1,b", 3, 58);
-        faulty("group a;house h notices 1 pension 1 wants a,", 1, 43);
-        faulty("office o carry weight chain", 1, 22);
-        faulty("office o lost", 1, 9);
-        faulty("office o carry drop", 1, 15);
-        faulty("months 2;group a;months 99", 3, 17);
+        Check.faulty("group a;thing a", 3, 14);
+        Check.faulty("group a;thing b of b", 2, 19);
+        Check.faulty("group a;thing b off a", 1, 16);
+        Check.faulty("group a;thing b of a size ten", 1, 26);
+        Check.faulty("group a;thing b of a stuff 10", 1, 21);
+        Check.faulty("group a;change a", 2, 15);
+        Check.faulty("group a;house a", 3, 14);
+        Check.faulty("group a;office a", 3, 15);
+        Check.faulty("group a;house h notices 1 pension 1 wants h", 2, 42);
+        Check.faulty("group a;house h notices 1 pension 1 wants a 1,", 1, 46);
+        Check.faulty("group a;house h notices 1 pension 1 wants a 1,a 1", 3, 46);
+        Check.faulty("group a;group b;house h notices 1 pension 1 wants b 1,a 1,b", 3, 58);
+        Check.faulty("group a;house h notices 1 pension 1 wants a,", 1, 43);
+        Check.faulty("office o carry weight chain", 1, 22);
+        Check.faulty("office o lost", 1, 9);
+        Check.faulty("office o carry drop", 1, 15);
+        Check.faulty("months 2;group a;months 99", 3, 17);
         String thing = "group a;thing x of a size 10 stuff 10 price 1;";
-        faulty(thing + "change x month 1 dearer", 1, thing.length() + 23);
-        faulty(thing + "change x month 1 gone 1", 1, thing.length() + 22);
-        faulty(thing + "change x month 1 bigger 1", 1, thing.length() + 17);
-        faulty(LEAST.replace("months 2;", ""), 6, LEAST.length() - 9);
-        faulty(LEAST.replace(";office o carry piece fixed", "  "), 6, LEAST.length() - 25);
-        faulty(LEAST.replace("house h notices 0 pension 0 wants a 1;", ""), 6, LEAST.length() - 38);
-        faulty("months 2;group a;house h notices 0 pension 0 wants a 1;office o carry piece fixed", 6, 81);
-        faulty("months 1;;", 4, 7);
-        faulty("group a;group b;house h notices 1 pension 1 wants a 1:b 1", 1, 53);
-        faulty("group a;group b;house h notices 1 pension 1 wants a 1;b 1", 1, 54);
+        Check.faulty(thing + "change x month 1 dearer", 1, thing.length() + 23);
+        Check.faulty(thing + "change x month 1 gone 1", 1, thing.length() + 22);
+        Check.faulty(thing + "change x month 1 bigger 1", 1, thing.length() + 17);
+        Check.faulty(LEAST.replace("months 2;", ""), 6, LEAST.length() - 9);
+        Check.faulty(LEAST.replace(";office o carry piece fixed", "  "), 6, LEAST.length() - 25);
+        Check.faulty(LEAST.replace("house h notices 0 pension 0 wants a 1;", ""), 6, LEAST.length() - 38);
+        Check.faulty("months 2;group a;house h notices 0 pension 0 wants a 1;office o carry piece fixed", 6, 81);
+        Check.faulty("months 1;;", 4, 7);
+        Check.faulty("group a;group b;house h notices 1 pension 1 wants a 1:b 1", 1, 53);
+        Check.faulty("group a;group b;house h notices 1 pension 1 wants a 1;b 1", 1, 54);
     }
 
     /** A line that is cut short is a fault of form, at the end, or at what stands there instead. */
@@ -215,8 +190,8 @@ public final class PromiseTest {
         for (String line : (LEAST + ";change x month 1 dearer 1;change x month 1 gone").split(";")) {
             StringBuilder part = new StringBuilder(ahead);
             for (String token : line.split(" ")) {
-                faulty(part.toString(), 1, part.length());
-                faulty(part + ";", 1, part.length());
+                Check.faulty(part.toString(), 1, part.length());
+                Check.faulty(part + ";", 1, part.length());
                 part.append(token).append(' ');
             }
             ahead.append(line).append(';');
@@ -227,10 +202,10 @@ public final class PromiseTest {
         Check.part("promise 3, bytes behind the first n");
         BiscuitLess x = new BiscuitLess();
         Check.feed(x, "months 20");
-        refused(x, "land(8) of months 20", x.land(8), NO, 4);
+        Check.refused(x, "land(8) of months 20", x.land(8), NO, 4);
         Check.due("lacks alone", x.fault(), 6);
         Check.feed(x, "group abcdefghi");
-        refused(x, "land(14) of group abcdefghi", x.land(14), NO, 4);
+        Check.refused(x, "land(14) of group abcdefghi", x.land(14), NO, 4);
         Check.due("lacks alone", x.fault(), 6);
     }
 
@@ -242,8 +217,8 @@ public final class PromiseTest {
         }
         text.append(";house m notices 0 pension 0 wants d 1,c 1,b 1,a 1;house n notices 0 pension 0 wants a 1");
         text.append(";house o notices 0 pension 0 wants a 1;office p carry piece fixed;office q carry piece fixed");
-        faulty(text + ";office q", 3, text.length() + 8);
-        faulty(text + ";office a", 3, text.length() + 8);
+        Check.faulty(text + ";office q", 3, text.length() + 8);
+        Check.faulty(text + ";office a", 3, text.length() + 8);
         text.append(";office r carry piece fixed");
         for (int n = 0; n < 12; n++) {
             text.append(";change l month 1 gone");
@@ -279,9 +254,9 @@ public final class PromiseTest {
     private static void bounds(String ahead, int least, int most, String behind) {
         int place = ahead.length();
         if (least > 0) {
-            faulty(ahead + (least - 1) + behind, 4, place);
+            Check.faulty(ahead + (least - 1) + behind, 4, place);
         }
-        faulty(ahead + (most + 1) + behind, most == 999 ? 1 : 4, place);
+        Check.faulty(ahead + (most + 1) + behind, most == 999 ? 1 : 4, place);
         for (int within : new int[] {least, most}) {
             BiscuitLess x = new BiscuitLess();
             String text = ahead + within + behind;
@@ -300,8 +275,8 @@ public final class PromiseTest {
         for (int n = 0; n < 16; n++) {
             text.append(";change x month 1 gone");
         }
-        faulty(text.toString(), 6, text.length());
-        faulty(text + ";change ?", 5, text.length() + 1);
+        Check.faulty(text.toString(), 6, text.length());
+        Check.faulty(text + ";change ?", 5, text.length() + 1);
     }
 
     private static void fills(String ahead, String first, String rest, int room) {
@@ -309,8 +284,8 @@ public final class PromiseTest {
         for (int n = 0; n < room; n++) {
             text.append(n == 0 ? "" : ";").append(first).append((char) ('p' + n)).append(rest);
         }
-        faulty(text.toString(), 6, text.length());
-        faulty(text + ";" + first + "!", 5, text.length() + 1);
+        Check.faulty(text.toString(), 6, text.length());
+        Check.faulty(text + ";" + first + "!", 5, text.length() + 1);
     }
 
     private static void where() {
@@ -387,16 +362,16 @@ public final class PromiseTest {
             Check.due("buys(1, 0, " + m + ", 0)", x.buys(1, 0, m, 0), 1);
             Check.due("buys(1, 0, " + m + ", 1)", x.buys(1, 0, m, 1), 1);
         }
-        refused(x, "a GROUP it doesn't want", x.buys(1, 1, 0, 0), NO, 1);
-        refused(x, "no HOUSE", x.buys(2, 0, 0, 0), NO, 1);
-        refused(x, "no HOUSE below", x.buys(-1, 0, 0, 0), NO, 1);
-        refused(x, "no GROUP", x.buys(0, 2, 0, 0), NO, 1);
-        refused(x, "no GROUP below", x.buys(0, -1, 0, 0), NO, 1);
-        refused(x, "no MONTH", x.buys(0, 0, 5, 0), NO, 1);
-        refused(x, "no MONTH below", x.buys(0, 0, -1, 0), NO, 1);
-        refused(x, "no what", x.buys(0, 0, 0, 2), NO, 1);
-        refused(x, "no what below", x.buys(0, 0, 0, -1), NO, 1);
-        refused(x, "one that is", x.buys(0, 0, 0, 0), 1, 0);
+        Check.refused(x, "a GROUP it doesn't want", x.buys(1, 1, 0, 0), NO, 1);
+        Check.refused(x, "no HOUSE", x.buys(2, 0, 0, 0), NO, 1);
+        Check.refused(x, "no HOUSE below", x.buys(-1, 0, 0, 0), NO, 1);
+        Check.refused(x, "no GROUP", x.buys(0, 2, 0, 0), NO, 1);
+        Check.refused(x, "no GROUP below", x.buys(0, -1, 0, 0), NO, 1);
+        Check.refused(x, "no MONTH", x.buys(0, 0, 5, 0), NO, 1);
+        Check.refused(x, "no MONTH below", x.buys(0, 0, -1, 0), NO, 1);
+        Check.refused(x, "no what", x.buys(0, 0, 0, 2), NO, 1);
+        Check.refused(x, "no what below", x.buys(0, 0, 0, -1), NO, 1);
+        Check.refused(x, "one that is", x.buys(0, 0, 0, 0), 1, 0);
         BiscuitLess upwards = Check.landOf(LEAST.replace("size 10 stuff 10", "size 11 stuff 11").replace("wants a 1", "wants a 23"));
         Check.due("2300 by 121, upwards", upwards.buys(0, 0, 0, 1), 20);
         BiscuitLess even = Check.landOf(LEAST.replace("wants a 1", "wants a 99"));
@@ -416,16 +391,16 @@ public final class PromiseTest {
         }
         Check.due("spent(1, 2)", x.spent(1, 2), 5);
         for (int wrong : new int[] {-1, 2}) {
-            refused(x, "spent of no HOUSE", x.spent(wrong, 0), NO, 1);
-            refused(x, "missed of no HOUSE", x.missed(wrong, 0), NO, 1);
-            refused(x, "truly of no HOUSE", x.truly(wrong, 0), NO, 1);
+            Check.refused(x, "spent of no HOUSE", x.spent(wrong, 0), NO, 1);
+            Check.refused(x, "missed of no HOUSE", x.missed(wrong, 0), NO, 1);
+            Check.refused(x, "truly of no HOUSE", x.truly(wrong, 0), NO, 1);
         }
         for (int wrong : new int[] {-1, 5}) {
-            refused(x, "spent in no MONTH", x.spent(0, wrong), NO, 1);
-            refused(x, "missed in no MONTH", x.missed(0, wrong), NO, 1);
-            refused(x, "truly in no MONTH", x.truly(0, wrong), NO, 1);
+            Check.refused(x, "spent in no MONTH", x.spent(0, wrong), NO, 1);
+            Check.refused(x, "missed in no MONTH", x.missed(0, wrong), NO, 1);
+            Check.refused(x, "truly in no MONTH", x.truly(0, wrong), NO, 1);
         }
-        refused(x, "spent", x.spent(0, 0), 48, 0);
+        Check.refused(x, "spent", x.spent(0, 0), 48, 0);
     }
 
     private static void live() {
@@ -435,8 +410,8 @@ public final class PromiseTest {
         for (int m = 0; m < 5; m++) {
             Check.due("live(0, " + m + ")", x.live(0, m), live[m]);
         }
-        refused(x, "live of no HOUSE", x.live(2, 0), NO, 1);
-        refused(x, "live in no MONTH", x.live(0, 5), NO, 1);
+        Check.refused(x, "live of no HOUSE", x.live(2, 0), NO, 1);
+        Check.refused(x, "live in no MONTH", x.live(0, 5), NO, 1);
         BiscuitLess late = Check.landOf(LEAST + ";change x month 1 come");
         Check.due("TRULY of nothing", late.truly(0, 0), 0);
         Check.due("LIVE by nothing", late.live(0, 1), 10000);
@@ -452,11 +427,11 @@ public final class PromiseTest {
                 Check.due("number(" + o + ", " + m + ")", x.number(o, m), due[o][m]);
             }
         }
-        refused(x, "no OFFICE", x.number(3, 0), NO, 1);
-        refused(x, "no OFFICE below", x.number(-1, 0), NO, 1);
-        refused(x, "no MONTH", x.number(0, 5), NO, 1);
-        refused(x, "no MONTH below", x.number(0, -1), NO, 1);
-        refused(x, "one that is", x.number(0, 0), 10000, 0);
+        Check.refused(x, "no OFFICE", x.number(3, 0), NO, 1);
+        Check.refused(x, "no OFFICE below", x.number(-1, 0), NO, 1);
+        Check.refused(x, "no MONTH", x.number(0, 5), NO, 1);
+        Check.refused(x, "no MONTH below", x.number(0, -1), NO, 1);
+        Check.refused(x, "one that is", x.number(0, 0), 10000, 0);
     }
 
     private static void numberByNear() {
@@ -537,10 +512,10 @@ public final class PromiseTest {
         Check.due("gives(2, 1, 0)", x.gives(2, 1, 0), 24000);
         Check.due("gives(2, 2, 3) as carry, with none near", x.gives(2, 2, 3), 27960);
         Check.due("gives(2, 2, 4) near", x.gives(2, 2, 4), 36000);
-        refused(x, "no OFFICE", x.gives(3, 0, 0), NO, 1);
-        refused(x, "no THING", x.gives(0, 4, 0), NO, 1);
-        refused(x, "no THING below", x.gives(0, -1, 0), NO, 1);
-        refused(x, "no MONTH", x.gives(0, 0, 5), NO, 1);
+        Check.refused(x, "no OFFICE", x.gives(3, 0, 0), NO, 1);
+        Check.refused(x, "no THING", x.gives(0, 4, 0), NO, 1);
+        Check.refused(x, "no THING below", x.gives(0, -1, 0), NO, 1);
+        Check.refused(x, "no MONTH", x.gives(0, 0, 5), NO, 1);
         BiscuitLess much = Check.landOf("months 2;group a;group b;thing x of a size 109 stuff 10 price 999;"
             + "change x month 1 smaller 99;house h notices 99 pension 0 wants a 99;office w carry weight fixed");
         Check.due("gives of ten pieces of 109 at 99,900", much.gives(0, 0, 1), 108891000L);
@@ -553,10 +528,10 @@ public final class PromiseTest {
         Check.due("beside(0, 0, 1)", x.beside(0, 0, 1), -833);
         Check.due("beside(2, 0, 3)", x.beside(2, 0, 3), 5528);
         Check.due("beside(0, 1, 2)", x.beside(0, 1, 2), 11153 - 12500);
-        refused(x, "no OFFICE", x.beside(3, 0, 0), NO_DIFFERENCE, 1);
-        refused(x, "no HOUSE", x.beside(0, 2, 0), NO_DIFFERENCE, 1);
-        refused(x, "no MONTH", x.beside(0, 0, 5), NO_DIFFERENCE, 1);
-        refused(x, "one that is", x.beside(0, 0, 0), 0, 0);
+        Check.refused(x, "no OFFICE", x.beside(3, 0, 0), NO_DIFFERENCE, 1);
+        Check.refused(x, "no HOUSE", x.beside(0, 2, 0), NO_DIFFERENCE, 1);
+        Check.refused(x, "no MONTH", x.beside(0, 0, 5), NO_DIFFERENCE, 1);
+        Check.refused(x, "one that is", x.beside(0, 0, 0), 0, 0);
     }
 
     private static void backAndDrift() {
@@ -574,13 +549,13 @@ public final class PromiseTest {
         Check.due("back(1), STUFF of what isn't there is no matter", x.back(1), 1);
         Check.due("back(4), nor is PRICE", x.back(4), 1);
         Check.due("back(6)", x.back(6), 0);
-        refused(x, "back(8)", x.back(8), NO, 1);
-        refused(x, "back(-1)", x.back(-1), NO, 1);
-        refused(x, "drift(0, 4)", x.drift(0, 4), 0, 0);
-        refused(x, "drift(0, 6)", x.drift(0, 6), NO_DIFFERENCE, 5);
-        refused(x, "drift(1, 0)", x.drift(1, 0), NO_DIFFERENCE, 1);
-        refused(x, "drift(0, 8)", x.drift(0, 8), NO_DIFFERENCE, 1);
-        refused(x, "drift(1, 6), 1 ahead of 5", x.drift(1, 6), NO_DIFFERENCE, 1);
+        Check.refused(x, "back(8)", x.back(8), NO, 1);
+        Check.refused(x, "back(-1)", x.back(-1), NO, 1);
+        Check.refused(x, "drift(0, 4)", x.drift(0, 4), 0, 0);
+        Check.refused(x, "drift(0, 6)", x.drift(0, 6), NO_DIFFERENCE, 5);
+        Check.refused(x, "drift(1, 0)", x.drift(1, 0), NO_DIFFERENCE, 1);
+        Check.refused(x, "drift(0, 8)", x.drift(0, 8), NO_DIFFERENCE, 1);
+        Check.refused(x, "drift(1, 6), 1 ahead of 5", x.drift(1, 6), NO_DIFFERENCE, 1);
         BiscuitLess sizes = Check.landOf(LEAST + ";change x month 1 better 1");
         Check.due("STUFF alone", sizes.back(1), 0);
         Check.due("PRICE alone", Check.landOf(LEAST + ";change x month 1 dearer 1").back(1), 0);
@@ -596,12 +571,12 @@ public final class PromiseTest {
                 Check.due("has(" + o + ", " + what + ")", x.has(o, what), due[o][what]);
             }
         }
-        refused(x, "no what", x.has(0, 3), NO, 1);
-        refused(x, "no what below", x.has(0, -1), NO, 1);
-        refused(x, "no OFFICE", x.has(3, 0), NO, 1);
+        Check.refused(x, "no what", x.has(0, 3), NO, 1);
+        Check.refused(x, "no what below", x.has(0, -1), NO, 1);
+        Check.refused(x, "no OFFICE", x.has(3, 0), NO, 1);
         BiscuitLess calm = Check.landOf(LEAST);
         for (int what = 0; what < 3; what++) {
-            refused(calm, "has of a calm land", calm.has(0, what), 1, 0);
+            Check.refused(calm, "has of a calm land", calm.has(0, what), 1, 0);
         }
         // x goes in the last month but is bought only till the month ahead of it is the chained list.
         BiscuitLess seen = Check.landOf("months 3;group a;thing x of a size 10 stuff 10 price 1;"
@@ -625,10 +600,10 @@ public final class PromiseTest {
                 Check.due("instead(0, " + m + ", " + side + ")", x.instead(0, m, side), due[m][side]);
             }
         }
-        refused(x, "no side", x.instead(0, 0, 2), NO, 1);
-        refused(x, "no side below", x.instead(0, 0, -1), NO, 1);
-        refused(x, "no HOUSE", x.instead(2, 0, 0), NO, 1);
-        refused(x, "no MONTH", x.instead(0, 5, 0), NO, 1);
+        Check.refused(x, "no side", x.instead(0, 0, 2), NO, 1);
+        Check.refused(x, "no side below", x.instead(0, 0, -1), NO, 1);
+        Check.refused(x, "no HOUSE", x.instead(2, 0, 0), NO, 1);
+        Check.refused(x, "no MONTH", x.instead(0, 5, 0), NO, 1);
         BiscuitLess late = Check.landOf(LEAST + ";change x month 1 come;change x month 1 dearer 1");
         Check.due("10,000 by 0", late.instead(0, 1, 0), 10000);
         Check.due("by its LINE", late.instead(0, 1, 1), 20000);
@@ -650,14 +625,14 @@ public final class PromiseTest {
             Check.due("lacks(0, 0, " + m + ")", x.lacks(0, 0, m), due[m]);
         }
         for (int wrong : new int[] {-1, 5}) {
-            refused(x, "pension of no HOUSE", x.pension(wrong, 0, 0), NO, 1);
-            refused(x, "pension of no OFFICE", x.pension(0, wrong, 0), NO, 1);
-            refused(x, "pension of no MONTH", x.pension(0, 0, wrong), NO, 1);
-            refused(x, "lacks of no HOUSE", x.lacks(wrong, 0, 0), NO, 1);
-            refused(x, "lacks of no OFFICE", x.lacks(0, wrong, 0), NO, 1);
-            refused(x, "lacks of no MONTH", x.lacks(0, 0, wrong), NO, 1);
+            Check.refused(x, "pension of no HOUSE", x.pension(wrong, 0, 0), NO, 1);
+            Check.refused(x, "pension of no OFFICE", x.pension(0, wrong, 0), NO, 1);
+            Check.refused(x, "pension of no MONTH", x.pension(0, 0, wrong), NO, 1);
+            Check.refused(x, "lacks of no HOUSE", x.lacks(wrong, 0, 0), NO, 1);
+            Check.refused(x, "lacks of no OFFICE", x.lacks(0, wrong, 0), NO, 1);
+            Check.refused(x, "lacks of no MONTH", x.lacks(0, 0, wrong), NO, 1);
         }
-        refused(x, "one that is", x.lacks(0, 0, 0), 0, 0);
+        Check.refused(x, "one that is", x.lacks(0, 0, 0), 0, 0);
     }
 
     private static void nearest() {
@@ -667,8 +642,8 @@ public final class PromiseTest {
         for (int m = 0; m < 5; m++) {
             Check.due("nearest(0, " + m + ")", x.nearest(0, m), due[m]);
         }
-        refused(x, "no HOUSE", x.nearest(2, 0), NO, 1);
-        refused(x, "no MONTH", x.nearest(0, 5), NO, 1);
+        Check.refused(x, "no HOUSE", x.nearest(2, 0), NO, 1);
+        Check.refused(x, "no MONTH", x.nearest(0, 5), NO, 1);
     }
 
     private static void worthsAndSpan() {
@@ -685,19 +660,19 @@ public final class PromiseTest {
         Check.due("and most a is 20", x.span(1, 3, 0, 0, true), 20);
         Check.due("and least b is 0", x.span(1, 3, 0, 1, false), 0);
         Check.due("both things of a: none", x.worths(0, 0, 0), 0);
-        refused(x, "span of none", x.span(0, 0, 0, 0, true), NO, 6);
-        refused(x, "worths of off by 999", x.worths(0, 0, 999), 441, 0);
-        refused(x, "off by 1000", x.worths(0, 0, 1000), NO, 2);
-        refused(x, "off by -1", x.worths(0, 0, -1), NO, 2);
-        refused(x, "span off by 1000", x.span(0, 0, 1000, 0, true), NO, 2);
-        refused(x, "span off by -1", x.span(0, 0, -1, 0, true), NO, 2);
-        refused(x, "1 ahead of 2", x.worths(2, 0, -1), NO, 1);
-        refused(x, "no GROUP below", x.worths(-1, 0, 0), NO, 1);
-        refused(x, "no MONTH", x.worths(0, 5, 0), NO, 1);
-        refused(x, "span of no GROUP", x.span(2, 0, 0, 0, true), NO, 1);
-        refused(x, "span in no MONTH", x.span(0, 5, 0, 0, true), NO, 1);
-        refused(x, "span of no what", x.span(0, 0, 1000, 2, true), NO, 1);
-        refused(x, "span of no what below", x.span(0, 0, 0, -1, true), NO, 1);
+        Check.refused(x, "span of none", x.span(0, 0, 0, 0, true), NO, 6);
+        Check.refused(x, "worths of off by 999", x.worths(0, 0, 999), 441, 0);
+        Check.refused(x, "off by 1000", x.worths(0, 0, 1000), NO, 2);
+        Check.refused(x, "off by -1", x.worths(0, 0, -1), NO, 2);
+        Check.refused(x, "span off by 1000", x.span(0, 0, 1000, 0, true), NO, 2);
+        Check.refused(x, "span off by -1", x.span(0, 0, -1, 0, true), NO, 2);
+        Check.refused(x, "1 ahead of 2", x.worths(2, 0, -1), NO, 1);
+        Check.refused(x, "no GROUP below", x.worths(-1, 0, 0), NO, 1);
+        Check.refused(x, "no MONTH", x.worths(0, 5, 0), NO, 1);
+        Check.refused(x, "span of no GROUP", x.span(2, 0, 0, 0, true), NO, 1);
+        Check.refused(x, "span in no MONTH", x.span(0, 5, 0, 0, true), NO, 1);
+        Check.refused(x, "span of no what", x.span(0, 0, 1000, 2, true), NO, 1);
+        Check.refused(x, "span of no what below", x.span(0, 0, 0, -1, true), NO, 1);
     }
 
     private static void hidesAndGain() {
@@ -711,7 +686,7 @@ public final class PromiseTest {
                 Check.due("gain(0, 1, " + row[0] + ", " + how + ")", x.gain(0, 1, row[0], how), row[how + 1]);
             }
         }
-        refused(x, "hides(0, 1, 10, 0), the first of like ones", x.hides(0, 1, 10, 0), 0, 0);
+        Check.refused(x, "hides(0, 1, 10, 0), the first of like ones", x.hides(0, 1, 10, 0), 0, 0);
         Check.due("nothing was changed", x.size(3), 1);
         Check.due("nor its size", x.thing(0, 1, 0), 50);
         BiscuitLess known = Check.landOf("months 2;group a;thing z of a size 50 stuff 20 price 10;"
@@ -723,22 +698,22 @@ public final class PromiseTest {
         Check.due("by weight only thinner is left", known.hides(0, 1, 10, 1), 2);
         Check.due("GAIN dearer where the house goes away", known.gain(0, 1, 3, 0), 0);
         Check.due("GAIN dearer where it stays", known.gain(0, 1, 2, 0), 6);
-        refused(known, "no THING", known.hides(2, 1, 1, 0), NO, 1);
-        refused(known, "MONTH 0", known.hides(0, 0, 1, 0), NO, 1);
-        refused(known, "no MONTH", known.hides(0, 2, 1, 0), NO, 1);
-        refused(known, "no OFFICE", known.hides(0, 1, 1, 2), NO, 1);
-        refused(known, "by 0", known.hides(0, 1, 0, 0), NO, 2);
-        refused(known, "by 100", known.hides(0, 1, 100, 0), NO, 2);
-        refused(known, "1 ahead of 2", known.hides(0, 0, 0, 0), NO, 1);
-        refused(known, "gain of no THING", known.gain(-1, 1, 1, 0), NO, 1);
-        refused(known, "gain in MONTH 0", known.gain(0, 0, 1, 0), NO, 1);
-        refused(known, "gain by no HOW", known.gain(0, 1, 100, 3), NO, 1);
-        refused(known, "gain by no HOW below", known.gain(0, 1, 1, -1), NO, 1);
-        refused(known, "gain by 0", known.gain(0, 1, 0, 0), NO, 2);
-        refused(known, "gain by 100", known.gain(0, 1, 100, 0), NO, 2);
+        Check.refused(known, "no THING", known.hides(2, 1, 1, 0), NO, 1);
+        Check.refused(known, "MONTH 0", known.hides(0, 0, 1, 0), NO, 1);
+        Check.refused(known, "no MONTH", known.hides(0, 2, 1, 0), NO, 1);
+        Check.refused(known, "no OFFICE", known.hides(0, 1, 1, 2), NO, 1);
+        Check.refused(known, "by 0", known.hides(0, 1, 0, 0), NO, 2);
+        Check.refused(known, "by 100", known.hides(0, 1, 100, 0), NO, 2);
+        Check.refused(known, "1 ahead of 2", known.hides(0, 0, 0, 0), NO, 1);
+        Check.refused(known, "gain of no THING", known.gain(-1, 1, 1, 0), NO, 1);
+        Check.refused(known, "gain in MONTH 0", known.gain(0, 0, 1, 0), NO, 1);
+        Check.refused(known, "gain by no HOW", known.gain(0, 1, 100, 3), NO, 1);
+        Check.refused(known, "gain by no HOW below", known.gain(0, 1, 1, -1), NO, 1);
+        Check.refused(known, "gain by 0", known.gain(0, 1, 0, 0), NO, 2);
+        Check.refused(known, "gain by 100", known.gain(0, 1, 100, 0), NO, 2);
         Check.due("z goes", known.change(0, 1, 5, 0), 1);
-        refused(known, "hides of what isn't THERE", known.hides(0, 1, 1, 0), NO, 1);
-        refused(known, "gain of what isn't THERE", known.gain(0, 1, 1, 0), NO, 1);
+        Check.refused(known, "hides of what isn't THERE", known.hides(0, 1, 1, 0), NO, 1);
+        Check.refused(known, "gain of what isn't THERE", known.gain(0, 1, 1, 0), NO, 1);
     }
 
     private static void hidesNothing() {
@@ -747,7 +722,7 @@ public final class PromiseTest {
         BiscuitLess x = Check.landOf("months 2;group a;thing x of a size 20 stuff 20 price 9;"
             + "thing y of a size 20 stuff 20 price 10;change x month 1 dearer 1;"
             + "house h notices 0 pension 0 wants a 4;office o carry piece fixed");
-        refused(x, "hides(0, 1, 1, 0)", x.hides(0, 1, 1, 0), -2, 0);
+        Check.refused(x, "hides(0, 1, 1, 0)", x.hides(0, 1, 1, 0), -2, 0);
         Check.due("gain(0, 1, 1, 1)", x.gain(0, 1, 1, 1), 0);
         // y isn't bought at all: nothing is gained, nobody leaves, the first way is as good as any.
         Check.due("hides(1, 1, 1, 0)", x.hides(1, 1, 1, 0), 0);
@@ -772,12 +747,12 @@ public final class PromiseTest {
         Check.due("look(1, 3, 1), r left out", x.look(1, 3, 1), 2);
         Check.due("look(1, 3, 0), r carried", x.look(1, 3, 0), 4);
         Check.due("look(1, 0, 0)", x.look(1, 0, 0), 2);
-        refused(x, "k 0", x.look(0, 0, 0), NO, 2);
-        refused(x, "k 5", x.look(5, 0, 0), NO, 2);
-        refused(x, "no MONTH", x.look(0, 5, 0), NO, 1);
-        refused(x, "no OFFICE", x.look(0, 0, 3), NO, 1);
+        Check.refused(x, "k 0", x.look(0, 0, 0), NO, 2);
+        Check.refused(x, "k 5", x.look(5, 0, 0), NO, 2);
+        Check.refused(x, "no MONTH", x.look(0, 5, 0), NO, 1);
+        Check.refused(x, "no OFFICE", x.look(0, 0, 3), NO, 1);
         BiscuitLess gone = Check.landOf(LEAST.replace("carry", "drop") + ";change x month 1 gone");
-        refused(gone, "nothing to look at", gone.look(1, 1, 0), -2, 0);
+        Check.refused(gone, "nothing to look at", gone.look(1, 1, 0), -2, 0);
         Check.due("in MONTH 0", gone.look(1, 0, 0), 1);
     }
 
@@ -802,16 +777,16 @@ public final class PromiseTest {
         Check.due("thing(0, 0, 3)", x.thing(0, 0, 3), 0);
         Check.due("thing(0, 1, 3)", x.thing(0, 1, 3), 1);
         Check.due("numbers go with it", x.number(0, 1), 10000);
-        refused(x, "no THING", x.change(1, 1, 0, 0), NO, 1);
-        refused(x, "MONTH 0", x.change(0, 0, 0, 0), NO, 1);
-        refused(x, "no MONTH", x.change(0, 3, 0, 0), NO, 1);
-        refused(x, "no HOW", x.change(0, 1, 7, 0), NO, 1);
-        refused(x, "no HOW below", x.change(0, 1, -1, 0), NO, 1);
+        Check.refused(x, "no THING", x.change(1, 1, 0, 0), NO, 1);
+        Check.refused(x, "MONTH 0", x.change(0, 0, 0, 0), NO, 1);
+        Check.refused(x, "no MONTH", x.change(0, 3, 0, 0), NO, 1);
+        Check.refused(x, "no HOW", x.change(0, 1, 7, 0), NO, 1);
+        Check.refused(x, "no HOW below", x.change(0, 1, -1, 0), NO, 1);
         for (int how = 0; how < 5; how++) {
-            refused(x, "by 0", x.change(0, 1, how, 0), NO, 2);
-            refused(x, "by 1000", x.change(0, 1, how, 1000), NO, 2);
+            Check.refused(x, "by 0", x.change(0, 1, how, 0), NO, 2);
+            Check.refused(x, "by 1000", x.change(0, 1, how, 1000), NO, 2);
         }
-        refused(x, "by 999", x.change(0, 1, 0, 999), 8, 0);
+        Check.refused(x, "by 999", x.change(0, 1, 0, 999), 8, 0);
     }
 
     private static void changesHaveRoom() {
@@ -820,45 +795,45 @@ public final class PromiseTest {
         for (int n = 1; n <= 19; n++) {
             Check.due("change " + n, x.change(0, 1, 0, 1), n);
         }
-        refused(x, "gain with 19", x.gain(0, 1, 1, 2), 2, 0);
+        Check.refused(x, "gain with 19", x.gain(0, 1, 1, 2), 2, 0);
         Check.due("change 20", x.change(0, 1, 0, 1), 20);
-        refused(x, "change 21", x.change(0, 1, 0, 1), NO, 3);
-        refused(x, "change 21 by 0, 2 ahead of 3", x.change(0, 1, 0, 0), NO, 2);
-        refused(x, "change 21 come", x.change(0, 1, 6, 0), NO, 3);
-        refused(x, "hides with 20", x.hides(0, 1, 1, 0), NO, 3);
-        refused(x, "hides by 0, 2 ahead of 3", x.hides(0, 1, 0, 0), NO, 2);
-        refused(x, "gain with 20", x.gain(0, 1, 1, 0), NO, 3);
+        Check.refused(x, "change 21", x.change(0, 1, 0, 1), NO, 3);
+        Check.refused(x, "change 21 by 0, 2 ahead of 3", x.change(0, 1, 0, 0), NO, 2);
+        Check.refused(x, "change 21 come", x.change(0, 1, 6, 0), NO, 3);
+        Check.refused(x, "hides with 20", x.hides(0, 1, 1, 0), NO, 3);
+        Check.refused(x, "hides by 0, 2 ahead of 3", x.hides(0, 1, 0, 0), NO, 2);
+        Check.refused(x, "gain with 20", x.gain(0, 1, 1, 0), NO, 3);
         Check.due("price", x.thing(0, 1, 2), 21);
     }
 
     private static void undo() {
         Check.part("promise 28");
         BiscuitLess x = Check.landOf(LEAST + ";change x month 1 dearer 1");
-        refused(x, "undo of a told one", x.undo() ? 1 : 0, 0, 6);
+        Check.refused(x, "undo of a told one", x.undo() ? 1 : 0, 0, 6);
         x.change(0, 1, 0, 5);
         x.change(0, 1, 0, 50);
         Check.due("price", x.thing(0, 1, 2), 57);
-        refused(x, "undo of the latest", x.undo() ? 1 : 0, 1, 0);
+        Check.refused(x, "undo of the latest", x.undo() ? 1 : 0, 1, 0);
         Check.due("price", x.thing(0, 1, 2), 7);
         Check.due("changes", x.size(3), 2);
         Check.due("number", x.number(0, 1), 70000);
-        refused(x, "undo of the one ahead", x.undo() ? 1 : 0, 1, 0);
-        refused(x, "undo of none", x.undo() ? 1 : 0, 0, 6);
+        Check.refused(x, "undo of the one ahead", x.undo() ? 1 : 0, 1, 0);
+        Check.refused(x, "undo of none", x.undo() ? 1 : 0, 0, 6);
         Check.due("price", x.thing(0, 1, 2), 2);
     }
 
     private static void led() {
         Check.part("promise 29");
         BiscuitLess x = Check.landOf(LAND);
-        Check.due("led(0, 0): another", led(x, 0, 0), 2);
-        Check.due("led(0, 1): none", led(x, 0, 1), 3);
-        Check.due("led(0, 2): had none", led(x, 0, 2), 4);
-        Check.due("led(0, 3)", led(x, 0, 3), -99);
-        Check.due("led(0, -1)", led(x, 0, -1), -99);
-        Check.due("led(1, 0)", led(x, 1, 0), -99);
+        Check.due("led(0, 0): another", Check.led(x, 0, 0), 2);
+        Check.due("led(0, 1): none", Check.led(x, 0, 1), 3);
+        Check.due("led(0, 2): had none", Check.led(x, 0, 2), 4);
+        Check.due("led(0, 3)", Check.led(x, 0, 3), Check.THROWN);
+        Check.due("led(0, -1)", Check.led(x, 0, -1), Check.THROWN);
+        Check.due("led(1, 0)", Check.led(x, 1, 0), Check.THROWN);
         x.back(9);
-        Check.due("led(2, 0)", led(x, 2, 0), -99);
-        Check.due("led(-1, 0)", led(x, -1, 0), -99);
+        Check.due("led(2, 0)", Check.led(x, 2, 0), Check.THROWN);
+        Check.due("led(-1, 0)", Check.led(x, -1, 0), Check.THROWN);
         Check.due("trouble() is no matter of led", x.trouble(), 1);
     }
 
@@ -888,8 +863,8 @@ public final class PromiseTest {
         x.size(9);
         x.fault();
         x.where();
-        led(x, 0, 0);
-        led(x, 9, 9);
+        Check.led(x, 0, 0);
+        Check.led(x, 9, 9);
         x.feed(0x20202020, 0x20202020, 0x20202020, 0x20202020, 0x20202020);
         Check.due("trouble() behind calls of which no number is told", x.trouble(), 1);
         for (int call = 0; call < 23; call++) {
