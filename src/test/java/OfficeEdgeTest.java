@@ -275,6 +275,13 @@ public final class OfficeEdgeTest {
         Check.row("BACK, x better again", x::back, 1, 1, 0, 1, 0, 1, NO);
         x.change(0, 3, 5, 0);
         Check.row("BACK, x gone from MONTH 3 on", x::back, 1, 1, 0, 0, 0, 0, NO);
+        BiscuitLess two = Check.landOf(Check.LEAST.replace("months 2", "months 3")
+            + ";thing y of a size 10 stuff 10 price 1;change x month 1 gone");
+        Check.row("BACK, gone in MONTH 1", two::back, 1, 0, 0, NO);
+        two.change(0, 2, 6, 0);
+        Check.row("BACK, not THERE till MONTH 2", two::back, 1, 1, 0, NO);
+        two.change(0, 1, 6, 0);
+        Check.row("BACK, come in MONTH 1", two::back, 1, 0, 0, NO);
     }
 
     private static void hasSame() {

@@ -46,6 +46,8 @@ public final class TextEdgeTest {
         namesToldAgain();
         namesOfAnotherSort();
         aheadOfItsUse();
+        namesOfAFormerText();
+        asManyNamesAsMayBe();
         wantedTwice();
         secondMonths();
         firstFromTheLeft();
@@ -336,6 +338,41 @@ public final class TextEdgeTest {
             + "thing x of a size 10 stuff 10 price 1;change x month 11 gone;months 2");
         Check.row("size", x::size, 2, 1, 1, 1, 1, 1, 0);
         Check.due("a change of a MONTH that there isn't", x.thing(0, 1, 3), 1);
+    }
+
+    private static void namesOfAFormerText() {
+        Check.part("I: a NAME that isn't told in this text, whatever former ones told");
+        BiscuitLess x = Check.landOf("group a;group b;" + FOUR_SORTS + "months 2");
+        String[] texts = {"thing x of ", "group z;thing x of ", "group z;group y;thing x of ",
+            "group z;house x notices 0 pension 0 wants ", "change ", "group z;change ",
+            "group z;group y;group w;change ", "group z;thing x of z size 10 stuff 10 price 1;group w;change "};
+        for (String text : texts) {
+            for (String name : new String[] {"a", "b", "g", "t", "h", "o"}) {
+                Check.tell(x, "group a;group b;" + FOUR_SORTS + "months 2");
+                Check.refused(x, text + name, Check.tell(x, text + name), NO, 4);
+                Check.due("fault of " + text + name, x.fault(), 2);
+                Check.due("place in " + text + name, x.where(), text.length());
+                Check.tell(x, "group " + name + ";group zz;group " + name + "x");
+                Check.due("a NAME told again in another text is no fault", x.fault(), 6);
+            }
+        }
+    }
+
+    private static void asManyNamesAsMayBe() {
+        Check.part("I: a LAND with a NAME for each LINE there is room for, the last of them used");
+        StringBuilder text = new StringBuilder("group a;group b;group c;group d");
+        for (char name = 'e'; name <= 'k'; name++) {
+            text.append(";thing ").append(name).append(" of d size 10 stuff 10 price 2");
+        }
+        for (char name = 'l'; name <= 'n'; name++) {
+            text.append(";house ").append(name).append(" notices 0 pension 0 wants d 1;office o").append(name)
+                .append(" carry piece fixed");
+        }
+        BiscuitLess x = new BiscuitLess();
+        Check.due("THINGS", Check.tell(x, text + ";thing z of d size 10 stuff 10 price 1;change z month 1 gone;months 2"), 8);
+        Check.row("THERE of the last", m -> x.thing(7, m, 3), 1, 0, NO);
+        Check.row("what a HOUSE buys", m -> x.buys(2, 3, m, 0), 7, 0, NO);
+        Check.faulty(text + ";thing z of d size 10 stuff 10 price 1;change ol", 2, text.length() + 46);
     }
 
     private static void wantedTwice() {
